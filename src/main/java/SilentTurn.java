@@ -1328,12 +1328,14 @@ public final class SilentTurn {
 
     /** The tape, read TOKEN by TOKEN; it knows the FAULT of the text that was read latest. */
     private static final class Tape {
+        // So many bits hold a letter, none of which is 0: no two WORDS of a NAME's length are the same number.
+        private static final int LETTER_BITS = 5;
         final int[] bytes = new int[LONGEST_TAPE];
         final long[] keywords = new long[KEYWORD_COUNT];
         int fed;
         int fault = NONE;
         int faultPlace = NONE;
-        // The TOKEN that is looked at: for a WORD that is long enough for no NAME its name is 0.
+        // The TOKEN that is looked at; the name of a WORD that is too long for a NAME is 0.
         int kind;
         int place;
         int word;
@@ -1349,14 +1351,9 @@ public final class SilentTurn {
                 if (letter == ' ') {
                     at++;
                 } else {
-                    keywords[at] = spelled(keywords[at], letter);
+                    keywords[at] = keywords[at] << LETTER_BITS | letter - 'a' + 1;
                 }
             }
-        }
-
-        // Five bits for each letter, none of which is 0: no two WORDS of a NAME's length are the same number.
-        private static long spelled(long ahead, int letter) {
-            return ahead << 5 | letter - 'a' + 1;
         }
 
         void put(int four) {
@@ -1402,7 +1399,7 @@ public final class SilentTurn {
             kind = WORD;
             long spelling = 0;
             while (next < length && bytes[next] >= 'a' && bytes[next] <= 'z') {
-                spelling = spelled(spelling, bytes[next]);
+                spelling = spelling << LETTER_BITS | bytes[next] - 'a' + 1;
                 next++;
             }
             if (next - place > LONGEST_NAME) {
@@ -1443,11 +1440,6 @@ public final class SilentTurn {
             return kind == WORD && name != 0 && word == NONE;
         }
 
-        boolean isCompare() {
-            boolean is = kind == SIGN && number != ';';
-            return is || fail(FAULT_MISPLACED);
-        }
-
         boolean skipWord(int wanted) {
             if (word != wanted) {
                 return fail(FAULT_MISPLACED);
@@ -1474,6 +1466,17 @@ public final class SilentTurn {
             }
             advance();
             return true;
+        }
+
+        // The TOKEN must be one that COMPARES, and is passed: which one; NONE if it is a FAULT.
+        int takeCompare() {
+            if (kind != SIGN || number == ';') {
+                fail(FAULT_MISPLACED);
+                return NONE;
+            }
+            int taken = number;
+            advance();
+            return taken;
         }
 
         // The TOKEN must be such a NUMBER, and is passed: which one; NONE if it is a FAULT.
@@ -1772,35 +1775,26 @@ public final class SilentTurn {
             }
             days.tests[at] = test;
             tape.advance();
-            switch (test) {
-                case SILENT:
-                    return takesMonk(at);
-                case LAST:
-                    return takesTopic(at);
-                case BREATH:
-                    return takesMonk(at) && takesSign(at) && takesNumber(at, 0, MOST_BREATH);
-                default:
-                    return takesSign(at) && takesNumber(at, 0, LAST_MINUTE);
+            if (test == LAST) {
+                days.whos[at] = house.topics.find(tape.name);
+                return tape.skipName(days.whos[at]);
             }
+            if (test != PAUSED && !takesMonk(at)) {
+                return false;
+            }
+            if (test == SILENT) {
+                return true;
+            }
+            days.signs[at] = tape.takeCompare();
+            if (days.signs[at] == NONE) {
+                return false;
+            }
+            return takesNumber(at, 0, test == BREATH ? MOST_BREATH : LAST_MINUTE);
         }
 
         private boolean takesMonk(int at) {
             days.whos[at] = house.monks.find(tape.name);
             return tape.skipName(days.whos[at]);
-        }
-
-        private boolean takesTopic(int at) {
-            days.whos[at] = house.topics.find(tape.name);
-            return tape.skipName(days.whos[at]);
-        }
-
-        private boolean takesSign(int at) {
-            if (!tape.isCompare()) {
-                return false;
-            }
-            days.signs[at] = tape.number;
-            tape.advance();
-            return true;
         }
 
         private boolean takesNumber(int at, int least, int most) {
@@ -1978,7 +1972,8 @@ public final class SilentTurn {
         }
 
         boolean suffices(House now, int set, int minutes) {
-            House house = in(now, 0);
+            House house = houses[0];
+            house.copy(now);
             house.monks.awake = set;
             return firstPauseOf(house, minutes) == NONE;
         }
