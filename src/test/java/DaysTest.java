@@ -204,6 +204,11 @@ public final class DaysTest {
         x = Checks.made("", "loop 99;loop 99;loop 99;end;end;end;");
         CHECK.gives("loops of loops", x, x.live(0), 300);
         livedIs("left", x, 0, 0, 0, 0, 1);
+        Checks.days(x, "stop;");
+        x.live(0);
+        livedIs("not left any more", x, 0, 0, 0, 0, 0);
+        x = Checks.made("", "loop 1;end;".repeat(25) + "loop 3;any;end;");
+        CHECK.gives("a loop behind many", x, x.live(0), 25 + 1 + 3);
         x = Checks.made("", "loop 99;minute 1;minute 1;minute 1;end;minute 1;stop;any;");
         CHECK.gives("300", x, x.live(0), 300);
         livedIs("stop is the 300th", x, 0, 298, 298, 0, 0);
@@ -230,6 +235,13 @@ public final class DaysTest {
     }
 
     private static void missed() {
+        SilentTurn last = Checks.made("", "minute 60;minute 40;minute 39;minute 1;");
+        for (int i = 0; i < 100; i++) {
+            last.minute(99);
+        }
+        CHECK.gives("to the last minute", last, last.live(0), 4);
+        CHECK.gives("to the last minute", last, last.told(5), 9999);
+        livedIs("to the last minute", last, 2, 99, 99, 0, 0);
         SilentTurn x = Checks.made("", "any;minute 1;any;");
         CHECK.gives("without monks", x, x.live(0), 3);
         livedIs("without monks", x, 2, 1, 1, 0, 0);

@@ -106,6 +106,18 @@ public final class HouseTextTest {
             CHECK.gives("monk 0 " + what, x, x.monk(0, what), monk[what]);
         }
         CHECK.gives("nothing may follow", x, x.topic(0, 1), 0);
+        x = new SilentTurn();
+        for (int i = 0; i < 3; i++) {
+            Checks.house(x, "topic t cost 1;follows t t;monk m breath 9;monk n breath 9;hears m n;roster n t;");
+            CHECK.gives("spoke", x, x.monk(1, 4), 0);
+            CHECK.gives("was silent", x, x.monk(0, 5), 0);
+            x.minute(3);
+            CHECK.gives("spoke", x, x.monk(1, 4), 3);
+        }
+        for (int i = 0; i < 2; i++) {
+            Checks.house(x, T + M + "monk n breath 9;");
+            CHECK.gives("nothing of the old ones", x, x.topic(0, 1) + x.monk(0, 6) + x.told(2), 0);
+        }
         x = Checks.made("monk a breath 0 asleep;monk b breath 99 rest 0;monk c breath 5 rest 9 asleep;");
         CHECK.gives("awake", x, x.told(8), 2);
         CHECK.gives("rest of a", x, x.monk(0, 2), 1);

@@ -89,6 +89,14 @@ public final class MarksTest {
         CHECK.gives("undo", x, x.undo(), 1);
         CHECK.gives("three monks again", x, x.told(1), 3);
         CHECK.gives("days again", x, x.live(0), 2);
+        x.mark();
+        CHECK.gives("q has less than 4", x, Checks.days(x, "when breath q<4;minute 1;any;end;"), 3);
+        x.breathe(1, 3);
+        x.mark();
+        CHECK.gives("p is not silent", x, Checks.days(x, "loop 2;when silent q;minute 1;end;end;"), 3);
+        CHECK.gives("undo", x, x.undo(), 2);
+        CHECK.gives("it holds again", x, x.live(0), 3);
+        CHECK.gives("undo", x, x.undo(), 1);
         CHECK.gives("names again", x, Checks.days(x, "when last c;wake r;end;"), 2);
         CHECK.none("but not z", x, Checks.days(x, "wake z;"), 9);
         CHECK.gives("undo", x, x.undo(), 0);
