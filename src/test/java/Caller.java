@@ -1,5 +1,6 @@
 import java.lang.reflect.InvocationTargetException;
 import java.lang.reflect.Method;
+import java.util.Arrays;
 import java.util.HashMap;
 import java.util.Map;
 
@@ -14,6 +15,20 @@ final class Caller {
     }
 
     private Caller() {
+    }
+
+    /** A call as it is written, of numbers alone: minute(5), wake(2, 1). */
+    static long call(SilentTurn x, String text) {
+        int open = text.indexOf('(');
+        String inside = text.substring(open + 1, text.length() - 1).trim();
+        long[] a = inside.isEmpty() ? new long[0]
+                : Arrays.stream(inside.split(",")).mapToLong(n -> Long.parseLong(n.trim())).toArray();
+        return call(x, text.substring(0, open), a);
+    }
+
+    /** What a call gives that is refused: false, which counts 0, or NONE. */
+    static long refusal(String name) {
+        return METHODS.get(name).getReturnType() == boolean.class ? 0 : SilentTurn.NONE;
     }
 
     static long call(SilentTurn x, String name, long... a) {
