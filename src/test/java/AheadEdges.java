@@ -13,11 +13,13 @@ final class AheadEdges {
         enough();
         fewest();
         shift();
+        easiestShift();
         firstShift();
         talk();
         ring();
         game();
         heard();
+        waysHeard();
         sure();
         couples();
         coughs();
@@ -114,8 +116,11 @@ final class AheadEdges {
         doc.gives("a can, as b is silent then", x, x.shift(2), 2);
         x = Checks.made("topic t cost 0;monk a breath 5;monk b breath 5;");
         doc.none("t may not follow itself", x, x.shift(2), 6);
+    }
+
+    private void easiestShift() {
         doc.of("so that in the end the least BREATH of all MONKS is the greatest;");
-        x = Checks.made("topic t cost 4;topic u cost 3;monk s breath 3 rest 0;monk a breath 9;monk b breath 6;"
+        SilentTurn x = Checks.made("topic t cost 4;topic u cost 3;monk s breath 3 rest 0;monk a breath 9;monk b breath 6;"
                 + "monk c breath 2 rest 0 asleep;");
         doc.gives("the least is who is asleep", x, x.shift(1), 2);
         x = Checks.made("topic t cost 4;topic u cost 3;monk s breath 9;monk a breath 6;monk b breath 9 rest 0;");
@@ -128,6 +133,8 @@ final class AheadEdges {
         doc.gives("and rests", x, x.shift(1), 3);
         x.breathe(0, 4);
         doc.gives("to the most he ever has", x, x.shift(1), 5);
+        x = Checks.made("topic t cost 0;follows t t;monk s breath 99;monk a breath 99;");
+        doc.gives("nobody has less than 99", x, x.shift(3), 99);
     }
 
     private void shiftIs(SilentTurn x, int n, int... way) {
@@ -158,6 +165,7 @@ final class AheadEdges {
         x.follow(0, 1, false);
         x.breathe(1, 9);
         shiftIs(x, 2, 1, 1, 1, 0);
+        shiftIs(Checks.made(Checks.FULL), 2, 6, 5, 6, 5);
     }
 
     // Topics a to f; each pair of letters is one and one that may follow it.
@@ -192,6 +200,7 @@ final class AheadEdges {
         talkIs("acd", "ab", "ac", "cd");
         talkIs("f", "ab", "bc");
         talkIs("bcd", "ab", "bc", "cd", "cb");
+        talkIs("fab", "fa", "ab", "bf");
         doc.of("of several the first by TOPICS.");
         talkIs("ab", "af", "ab", "ac");
         talkIs("abc", "af", "fe", "ab", "bd", "bc");
@@ -245,6 +254,7 @@ final class AheadEdges {
         gameIs(graph("ab", "bc", "cd", "ae"), 0, 1);
         gameIs(graph("ab", "bc", "cd", "af", "bf"), 0, 5);
         gameIs(graph("ab", "bc", "bd"), 0, -1);
+        gameIs(graph("ba", "bc"), 1, 0);
     }
 
     private void gameIs(SilentTurn x, int topic, int best) {
@@ -286,8 +296,11 @@ final class AheadEdges {
         hears(x, 1);
         doc.gives("but b", x, x.heard(0, 1), 1);
         doc.gives("nothing", x, x.heard(0, 0), 1);
+    }
+
+    private void waysHeard() {
         doc.of("in how many ways MONKS can have said them (who CAN, then; ROSTER, HELP not asked; TURNS as ever);");
-        x = Checks.made("turn 1;topic t cost 2;follows t t;monk a breath 2;monk b breath 2;monk c breath 2 asleep;roster b t;");
+        SilentTurn x = Checks.made("turn 1;topic t cost 2;follows t t;monk a breath 2;monk b breath 2;monk c breath 2 asleep;roster b t;");
         hears(x, 0, 0, 0);
         doc.gives("b", x, x.heard(0, 1), 1);
         x.wake(2, true);

@@ -8,6 +8,14 @@ class Checks {
             + "follows a b;follows b a;follows b c;follows c a;"
             + "roster q a;roster p b;hears p q;hears q r;";
 
+    /** As many TOPICS, MONKS and ENTRIES as there can be, no two alike. */
+    static final String FULL = "turn 98;odds 15;topic a cost 19;topic b cost 18;topic c cost 17;topic d cost 16;"
+            + "topic e cost 15;topic f cost 4;monk t breath 1 rest 2;monk u breath 2 rest 3;monk v breath 3 asleep;"
+            + "monk w breath 0 rest 0;monk x breath 1 rest 6;monk y breath 2 rest 7 asleep;monk z breath 9 rest 8;"
+            + "follows f f;follows a f;follows f e;hears z t;hears z y;hears y x;"
+            + "roster t a;roster u b;roster v c;roster w d;roster x e;roster y f;roster z a;roster z b;roster z c;"
+            + "roster z d;roster z e;roster z f;";
+
     private int asked;
     private int wrong;
 

@@ -16,14 +16,18 @@ final class DaysEdges {
         grammar();
         tests();
         faults();
+        faultsOfNamesAndNumbers();
+        tooMuch();
         minutesAndChanges();
         any();
         missed();
-        comparing();
+        comparingBreath();
+        comparingPauses();
         loops();
         threeHundred();
         seeds();
         marks();
+        takenBack();
         fractions();
     }
 
@@ -139,6 +143,9 @@ final class DaysEdges {
         bad("loop 1;any;", 2, 11);
         bad("loop 1;when silent p;end; ", 2, 26);
         bad("loop 1;end", 2, 10);
+    }
+
+    private void faultsOfNamesAndNumbers() {
         doc.of("3 a NAME that is no such one (a TOPIC behind last, else MONKS).");
         bad("change x;", 3, 7);
         bad("change a;", 3, 7);
@@ -159,6 +166,9 @@ final class DaysEdges {
         bad("loop 0;end;", 4, 5);
         bad("loop 100;end;", 4, 5);
         bad("when breath p<100;end;", 4, 14);
+    }
+
+    private void tooMuch() {
         doc.of("6 a 31st STEP (at its WORD; end is none).");
         good("any;".repeat(30), 30);
         bad("any;".repeat(30) + "any", 6, 120);
@@ -263,7 +273,7 @@ final class DaysEdges {
         x.undo();
     }
 
-    private void comparing() {
+    private void comparingBreath() {
         doc.of("breath: 0 to 99;");
         good("when breath p<0;end;when breath p=99;end;when breath p>0099;end;", 3);
         bad("when breath p<100;end;", 4, 14);
@@ -278,7 +288,11 @@ final class DaysEdges {
         holds(x, "breath p = 0", true);
         holds(x, "breath p < 0", false);
         holds(x, "breath p > 0", false);
+    }
+
+    private void comparingPauses() {
         doc.of("paused (how many PAUSES there were): 0 to 9,999.");
+        SilentTurn x = Checks.made(SMALL);
         good("when paused<0;end;when paused=9999;end;", 2);
         bad("when paused<10000;end;", 1, 12);
         holds(x, "paused = 0", true);
@@ -309,6 +323,15 @@ final class DaysEdges {
         lives(x, 100, 0, 99, 99, 0, 0);
         x = Checks.made("", "loop 2;loop 3;minute 1;end;end;");
         lives(x, 1 + 2 * (1 + 3), 0, 6, 6, 0, 0);
+        lives(x, 1 + 2 * (1 + 3), 0, 6, 6, 0, 0);
+        lives(Checks.made("", "loop1;end;".repeat(30)), 30, 0, 0, 0, 0, 0);
+        lives(Checks.made("", "loop1;end;".repeat(28) + "loop9;minute 1;end;"), 28 + 1 + 9, 0, 9, 9, 0, 0);
+        // A loop that was left in its midst has no rounds to go in what is lived next.
+        x = Checks.made(SMALL, "loop 9;stop;end;");
+        lives(x, 2, 0, 0, 0, 0, 0);
+        lives(x, 2, 0, 0, 0, 0, 0);
+        Checks.days(x, "when silent p;minute 1;end;");
+        lives(x, 2, 0, 1, 0, 0, 0);
         bad("loop 0;end;", 4, 5);
         bad("loop 100;end;", 4, 5);
     }
@@ -328,6 +351,7 @@ final class DaysEdges {
         // Each round of the outer loop comes to the when and to the inner loop anew.
         lives(Checks.made("", "loop 3;when paused>9;minute 1;end;loop 2;minute 1;end;end;"), 1 + 3 * (1 + 1 + 2), 0, 6);
         lives(Checks.made("", "loop 99;loop 99;end;end;"), 100, 0, 0, 0, 0, 0);
+        lives(Checks.made("", "loop 99;loop 99;loop 99;end;end;end;"), 300, 0, 0, 0, 0, 1);
         lives(Checks.made("", "loop 99;loop 3;minute 1;end;end;"), 300, 0, 224, 224, 0, 1);
     }
 
@@ -399,8 +423,48 @@ final class DaysEdges {
         Checks.days(x, "minute 2;");
         x.undo();
         doc.none("no days, as there were none", x, x.live(0), 6);
+        takenBackWhole();
+    }
+
+    private static SilentTurn fullWithDays() {
+        SilentTurn x = Checks.made(Checks.FULL, "loop 3;when breath z>4;minute 2;end;when breath z<5;wake v;end;"
+                + "when silent t;any;end;when last f;change w;end;when paused=1;sleep u;end;minute 1;end;minute 3;");
+        x.change(6);
+        x.minute(1);
+        x.change(0);
+        x.minute(1);
+        return x;
+    }
+
+    private void takenBackWhole() {
+        SilentTurn x = fullWithDays();
+        for (int i = 0; i < 3; i++) {
+            x.mark();
+            Checks.days(x, "change z;sleep z;loop 2;when last a;any;end;end;wake y;when paused<3;stop;end;");
+            x.live(i);
+            if (i == 1) {
+                Checks.house(x, SMALL);
+                Checks.days(x, "minute 9;");
+            }
+            x.undo();
+        }
+        SilentTurn other = fullWithDays();
+        doc.due("as it was", Portrait.ofHouse(x).compareTo(Portrait.ofHouse(other)), 0);
+        for (int i = 0; i < 3; i++) {
+            doc.due("the days as they were", x.live(i), other.live(i));
+            for (int what = 0; what <= 4; what++) {
+                doc.due("lived " + what, x.lived(what), other.lived(what));
+            }
+        }
+        doc.due("all as by them", Portrait.ofHouse(x).compareTo(Portrait.ofHouse(other)), 0);
+        String names = "change t;change z;when last a;end;when last f;end;";
+        doc.gives("the names as they were", x, Checks.days(x, names), 4);
+        doc.none("no other names", x, Checks.days(x, "change p;"), 9);
+    }
+
+    private void takenBack() {
         doc.of("all is taken back to the latest MARK, which is gone then.");
-        x = Checks.made(SMALL);
+        SilentTurn x = Checks.made(SMALL);
         for (int i = 0; i < 3; i++) {
             x.mark();
             x.minute(1);

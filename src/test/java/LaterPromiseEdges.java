@@ -116,6 +116,15 @@ final class LaterPromiseEdges {
             doc.gives("in " + m, x, x.unfair(), unfair[m]);
             x.minute(1);
         }
+        x = Checks.made("turn 99;monk a breath 1;monk b breath 1;monk c breath 1;");
+        int[] monks = {1, 0, 2};
+        int[] minutes = {5, 1, 7};
+        int[] apart = {5, 5, 6};
+        for (int i = 0; i < 3; i++) {
+            x.change(monks[i]);
+            x.minute(minutes[i]);
+            doc.gives("0, then 1, and 7", x, x.unfair(), apart[i]);
+        }
         x = new SilentTurn();
         x.minute(9);
         doc.gives("without monks", x, x.unfair(), 0);
@@ -213,6 +222,8 @@ final class LaterPromiseEdges {
         }
         x.follow(3, 3, false);
         doc.gives("none", x, x.reach(3), 0);
+        x.follow(3, 0, true);
+        doc.gives("by a", x, x.reach(3), 7);
         refusals.refused(1, "reach(-1)", "reach(3)");
     }
 
@@ -259,6 +270,10 @@ final class LaterPromiseEdges {
             }
             doc.none("no such k", x, x.sure(0, n, n), 1);
         }
+        x = Checks.made(Checks.FULL);
+        x.tray(0, 0, 1);
+        x.write(0, 0, 5);
+        doc.gives("the last monk", x, x.sure(0, 1, 0), 6);
         x = Checks.made("topic t cost 0;monk a breath 0;monk b breath 0;monk c breath 0;");
         x.tray(0, 0, 4);
         doc.none("b or c", x, x.sure(0, 1, 0), 6);

@@ -121,6 +121,12 @@ final class MinuteEdges {
         x.minute(1);
         doc.gives("by the roster it is none", x, x.told(7), 0);
         doc.gives("by the roster", x, x.monk(3, 4), 1);
+        x = Checks.made(Checks.FULL);
+        doc.gives("the last monk", x, x.speaker(), 6);
+        doc.gives("with the last topic", x, x.spoken(), 5);
+        doc.gives("and then none has breath enough", x, x.minute(2), 0);
+        doc.gives("he spoke twice", x, x.monk(6, 4), 2);
+        doc.gives("a pause", x, x.minute(1), 1);
     }
 
     private void pausing() {

@@ -190,6 +190,12 @@ final class PromiseEdges {
         doc.due("empty", x.feed(0, 0, 0, 0, 0), 20);
         doc.gives("nothing of 20", x, x.house(0), 0);
         doc.due("empty", x.feed(0, 0, 0, 0, 0), 20);
+        cut("turnx 5;", 4, 2, 4);
+        cut("turn 555;", 6, 2, 6);
+        cut("turn 555;", 7, 2, 7);
+        cut("turn 12345;", 9, 4, 5);
+        cut("topic abcdefghi", 14, 2, 14);
+        cut("turn 5;;", 7, 0, -1);
         doc.of("(1: n below 0, or more than the tape has, too; 9: the old one stays).");
         refusals.refused(1, "house(-1)", "house(21)", "house(901)");
         refusals.faulty("house", "monk a breath 1;monk b breath 1;!", 1, 32);
@@ -200,6 +206,7 @@ final class PromiseEdges {
         doc.due("empty", x.feed(0, 0, 0, 0, 0), 20);
         doc.gives("nothing of 20", x, x.days(0), 0);
         doc.due("empty", x.feed(0, 0, 0, 0, 0), 20);
+        daysAgain(Checks.made(Checks.SMALL));
         doc.of("(1: above 300, too; 9).");
         refusals.refused(1, "days(-1)", "days(21)");
         refusals.refused(PromiseEdges::longTape, "days(301)", 1);
@@ -207,6 +214,25 @@ final class PromiseEdges {
         refusals.refused(PromiseEdges::longTape, "days(321)", 1);
         doc.due("300", longTape().days(300), 0);
         refusals.faulty("days", "any;any;end;", 2, 8);
+    }
+
+    // What was read ahead, whole or not, leaves nothing in what is read now.
+    private void daysAgain(SilentTurn x) {
+        for (int i = 0; i < 3; i++) {
+            doc.gives("two", x, Checks.days(x, "any;any;"), 2);
+            doc.none("without an end", x, Checks.days(x, "loop 2;when silent p;loop 2;any;any;any;"), 9);
+            doc.gives("as they were", x, x.live(0), 2);
+            doc.gives("three", x, Checks.days(x, "loop 2;loop 2;loop 2;end;end;end;"), 3);
+            doc.gives("1 and 2 and 4", x, x.live(0), 7);
+        }
+    }
+
+    // What is behind the first n bytes is not read, not even to the end of a TOKEN.
+    private void cut(String tape, int n, int kind, int place) {
+        SilentTurn x = new SilentTurn();
+        Checks.feed(x, tape);
+        doc.due(n + " of '" + tape + "'", x.house(n), kind == 0 ? 0 : -1);
+        doc.faultIs(n + " of '" + tape + "'", x, kind, place);
     }
 
     private static SilentTurn longTape() {
@@ -283,6 +309,9 @@ final class PromiseEdges {
                 doc.gives("monk " + i + " " + what, x, x.monk(i, what), monks[i][what]);
             }
         }
+        x = Checks.made("monk a breath 1;");
+        x.minute(9);
+        doc.gives("alone he is always silent", x, x.monk(0, 5), 9);
         refusals.refused(1, "monk(-1, 0)", "monk(3, 0)", "monk(0, -1)", "monk(0, 7)");
         promise(16, "Of an ENTRY of the ROSTER, what 0: the MONK, 1: the TOPIC (1).");
         x = Checks.made(Checks.SMALL);
@@ -451,6 +480,11 @@ final class PromiseEdges {
         int[] speakers = {6, 4, 6};
         for (int i = 0; i < 3; i++) {
             doc.gives("speakers " + i, x, x.speakers(i), speakers[i]);
+        }
+        x.change(2);
+        int[] others = {3, 1, 3};
+        for (int i = 0; i < 3; i++) {
+            doc.gives("speakers " + i + ", r being silent", x, x.speakers(i), others[i]);
         }
         refusals.refused(1, "speakers(-1)", "speakers(3)");
         promise(32, "The SPEAKER of the MINUTE that begins (6: a PAUSE).");

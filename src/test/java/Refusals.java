@@ -25,6 +25,12 @@ final class Refusals {
      * TRAY 0 has 2, 7, 0 (sort 0), TRAY 1 5, -5 (sort 1), TRAY 2 nothing (sort 0), TRAY 3 is MISSING.
      */
     static SilentTurn rich() {
+        SilentTurn x = withEmptyTape();
+        Checks.feed(x, "any;any;any;any;any;");
+        return x;
+    }
+
+    private static SilentTurn withEmptyTape() {
         SilentTurn x = Checks.made(Checks.SMALL, "minute 1;any;");
         x.minute(4);
         x.mark();
@@ -40,7 +46,6 @@ final class Refusals {
         x.write(1, 1, -5);
         x.tray(2, 0, 0);
         Checks.house(x, "turn 0;");
-        Checks.feed(x, "any;any;any;any;any;");
         return x;
     }
 
@@ -76,13 +81,6 @@ final class Refusals {
         boolean same = Portrait.withoutText(x).equals(Portrait.withoutText(withEmptyTape()));
         doc.due(name + " '" + text + "' changes nothing else", same ? 1 : 0, 1);
         note(name, 9);
-    }
-
-    // A text with a FAULT, the first two bytes, empties the tape and changes nothing else.
-    private static SilentTurn withEmptyTape() {
-        SilentTurn x = rich();
-        x.days(2);
-        return x;
     }
 
     private void note(String name, int status) {

@@ -19,15 +19,24 @@ final class TextEdges {
         trays();
         length();
         tokens();
+        words();
         grammar();
+        pairsInGrammar();
         names();
         rules();
         topicsAndMonks();
-        pairs();
+        breathAndRest();
+        follows();
+        rosterAndEars();
         numbering();
         faultOrder();
-        faults();
-        taken();
+        noTokensAndPlaces();
+        faultsOfNames();
+        faultsOfNumbers();
+        toldAgain();
+        tooMany();
+        inPlaceOfTheOld();
+        freshlyTaken();
     }
 
     private void trays() {
@@ -91,6 +100,9 @@ final class TextEdges {
         doc.badHouse("tu rn 5;", 2, 0);
         doc.badHouse("turn 5 5;", 2, 7);
         doc.badHouse("turn 5\n5;", 2, 7);
+    }
+
+    private void words() {
         doc.of("WORDS (small letters),");
         good("topic a cost 1;topic z cost 1;", 0);
         doc.badHouse("topic A cost 1;", 1, 6);
@@ -165,6 +177,9 @@ final class TextEdges {
         part("", "monk a breath 5 rest 5 asleep ;");
         doc.badHouse("monk a breath 5 asleep rest 5;", 2, 23);
         doc.badHouse("monk a rest 5 breath 5;", 2, 7);
+    }
+
+    private void pairsInGrammar() {
         doc.of("or follows NAME NAME ; or roster NAME NAME ; or hears NAME NAME ;");
         part(T, "follows t t ;");
         part(T + M, "roster m t ;");
@@ -271,8 +286,11 @@ final class TextEdges {
         doc.of("MONKS, at most 7:");
         toldIs(monks(7), 1, 7);
         doc.badHouse(monks(8), 6, monks(7).length());
+    }
+
+    private void breathAndRest() {
         doc.of("BREATH (0 to 99), which is the most he ever has,");
-        x = Checks.made("monk a breath 0;monk b breath 99;");
+        SilentTurn x = Checks.made("monk a breath 0;monk b breath 99;");
         for (int what = 0; what <= 1; what++) {
             doc.gives("0", x, x.monk(0, what), 0);
             doc.gives("99", x, x.monk(1, what), 99);
@@ -303,7 +321,7 @@ final class TextEdges {
         }
     }
 
-    private void pairs() {
+    private void follows() {
         doc.of("FOLLOWS: the second TOPIC may follow the first");
         SilentTurn x = Checks.made(topics(3) + "follows b a;");
         doc.gives("behind b", x, x.topic(1, 1), 1);
@@ -314,9 +332,12 @@ final class TextEdges {
         x = Checks.made(topics(2) + "follows b b;follows b b;follows b a;follows b a;");
         doc.gives("behind b", x, x.topic(1, 1), 3);
         doc.gives("behind a", x, x.topic(0, 1), 0);
+    }
+
+    private void rosterAndEars() {
         doc.of("ROSTER, at most 12 ENTRIES, as told: a MONK, a TOPIC.");
         String roster = "roster p a;roster q b;roster p b;".repeat(4);
-        x = Checks.made(topics(2) + monks(2) + roster);
+        SilentTurn x = Checks.made(topics(2) + monks(2) + roster);
         doc.gives("entries", x, x.told(2), 12);
         for (int i = 0; i < 12; i++) {
             doc.gives("monk of " + i, x, x.entry(i, 0), i % 3 == 1 ? 1 : 0);
@@ -368,7 +389,7 @@ final class TextEdges {
         doc.badHouse("topic 9999 cost 1;", 2, 6);
     }
 
-    private void faults() {
+    private void noTokensAndPlaces() {
         doc.of("1 no TOKEN begins so (a NUMBER of 5 digits and more: at its first).");
         doc.badHouse("turn 10000;", 1, 5);
         doc.badHouse("turn 00001;", 1, 5);
@@ -393,6 +414,9 @@ final class TextEdges {
         // Nine letters whose last eight, or first eight, are a NAME's.
         doc.badHouse("topic abcdefgh cost 1;follows xabcdefgh abcdefgh;", 2, 30);
         doc.badHouse("topic abcdefgh cost 1;follows abcdefgh abcdefghx;", 2, 39);
+    }
+
+    private void faultsOfNames() {
         doc.of("3 a new NAME that is taken;");
         doc.badHouse(T + M + "topic m cost 1;", 3, 37);
         doc.badHouse(T + M + "monk t breath 1;", 3, 36);
@@ -405,12 +429,18 @@ final class TextEdges {
         doc.badHouse(T + M + "hears t m;", 3, 37);
         doc.badHouse(T + M + "hears m t;", 3, 39);
         doc.badHouse(T + M + "hears x x;", 3, 37);
+    }
+
+    private void faultsOfNumbers() {
         doc.of("4 a NUMBER that can't be.");
         doc.badHouse("turn 9999;", 4, 5);
         doc.badHouse("odds 9999;", 4, 5);
         doc.badHouse("topic t cost 9999;", 4, 13);
         doc.badHouse("monk m breath 9999;", 4, 14);
         doc.badHouse("monk m breath 9 rest 9999;", 4, 21);
+    }
+
+    private void toldAgain() {
         doc.of("5 turn, odds told already (at that WORD);");
         doc.badHouse("turn 5;turn", 5, 7);
         doc.badHouse("turn 10; turn 10;", 5, 9);
@@ -418,6 +448,9 @@ final class TextEdges {
         doc.of("hears of a MONK and himself (at the second NAME).");
         doc.badHouse(M + "hears m m;", 5, 24);
         doc.badHouse(M + N + "hears n n", 5, 40);
+    }
+
+    private void tooMany() {
         doc.of("6 a seventh topic, an eighth monk, a 13th roster (at that WORD).");
         String topics = topics(6);
         doc.badHouse(topics + "topic", 6, topics.length());
@@ -428,7 +461,7 @@ final class TextEdges {
         good(topics + monks + "roster p a;".repeat(12) + "turn 5;odds 5;follows a a;hears p q;", 7);
     }
 
-    private void taken() {
+    private void inPlaceOfTheOld() {
         doc.of("A HOUSE that is taken is there in place of that ahead;");
         SilentTurn x = full();
         doc.gives("a house", x, Checks.house(x, "monk z breath 3;topic y cost 2;"), 1);
@@ -444,8 +477,29 @@ final class TextEdges {
         doc.gives("an empty house", x, x.house(0), 0);
         doc.gives("no topics", x, x.told(0), 0);
         doc.gives("no entries", x, x.told(2), 0);
+        inPlaceOfMany();
+    }
+
+    // Whatever was read ahead, whole or not, nothing of it is left.
+    private void inPlaceOfMany() {
+        String plain = T + "topic u cost 2;" + M + N;
+        String want = Portrait.ofHouse(Checks.made(plain));
+        SilentTurn x = new SilentTurn();
+        for (int i = 0; i < 4; i++) {
+            doc.gives("a plain house", x, Checks.house(x, plain), 2);
+            doc.due("as a new one", Portrait.ofHouse(x).compareTo(want), 0);
+            x.minute(13);
+            Checks.house(x, Checks.FULL);
+            x.minute(99);
+            if (i > 1) {
+                doc.none("half a house", x, Checks.house(x, Checks.FULL + "turn 3;"), 9);
+            }
+        }
+    }
+
+    private void freshlyTaken() {
         doc.of("it is MINUTE 0, MONK 0 is the SILENT one, no TOPIC was the LAST, there was no PAUSE;");
-        x = full();
+        SilentTurn x = full();
         doc.due("a last one ahead", x.last() >= 0 ? 1 : 0, 1);
         Checks.house(x, Checks.SMALL);
         for (int what = 5; what <= 7; what++) {
